@@ -184,7 +184,7 @@ public final class LockQuest {
         }
 
         static int inRoom(int situation, int room) {
-            return (situation & ALL_BUT_ROOM) | room << 10;
+            return (situation & ALL_BUT_ROOM) | (room << 10);
         }
 
         static int toggled(int situation) {
@@ -344,7 +344,7 @@ public final class LockQuest {
             for (int r = 1; r < made.rooms; r++) {
                 boolean mustRise = made.rooms - r == made.levels - top;
                 int parent = mustRise ? drawnBefore(r, top) : drawing.number(r);
-                boolean rises = mustRise || mayRise(parent, top) && drawing.number(4) == 0;
+                boolean rises = mustRise || (mayRise(parent, top) && drawing.number(4) == 0);
                 if (rises) {
                     top++;
                 }
@@ -512,7 +512,7 @@ public final class LockQuest {
         }
 
         boolean has(int situation) {
-            return (bits[situation >> 6] & 1L << (situation & 63)) != 0;
+            return (bits[situation >> 6] & (1L << (situation & 63))) != 0;
         }
 
         void add(int situation) {
@@ -557,14 +557,14 @@ public final class LockQuest {
         }
 
         /**
-         * Whether the goal can be reached from all that were found. Each sweep goes from the last found to the first, as
-         * ways to the goal mostly lead on to what was found later.
+         * Whether the goal can be reached from all that were found. Each sweep goes from the last found to the first,
+         * as ways to the goal mostly lead on to what was found later.
          */
         boolean allLeadToGoal() {
             saved.clear();
             int left = count;
             boolean more = true;
-            for (int sweep = 0; more && sweep <= count; sweep++) {
+            for (int sweep = 0; more && left > 0 && sweep <= count; sweep++) {
                 more = false;
                 for (int at = count - 1; at >= 0; at--) {
                     int situation = found[at];
@@ -583,7 +583,6 @@ public final class LockQuest {
             seen.add(start);
             found[0] = start;
             distance[0] = 0;
-            opening[0] = BAD;
             count = 1;
         }
 

@@ -1,4 +1,4 @@
-/** Counts the answers of one test that are not as due, prints them, and ends the test with exit code 1 if there were any. */
+/** Prints the answers of one test that are not as due, and ends the test with exit code 1 if there were any. */
 final class Checks {
     private final String test;
     private int made;
