@@ -1,4 +1,4 @@
-/** Promises 1 to 5: a new object, make, room, behind, goal. */
+/** Promises 1 to 5: a new object, make, room, behind, goal. Their edges are in AdventureEdgesTest and MakingEdgesTest. */
 public final class AdventureTest {
     private static final Checks CHECKS = new Checks("AdventureTest");
 
@@ -44,10 +44,6 @@ public final class AdventureTest {
     public static void main(String[] args) {
         newObject();
         make();
-        makeRefused();
-        makeBeginsTheGame();
-        roomRefused();
-        behindRefused();
         goal();
         CHECKS.end();
     }
@@ -74,66 +70,6 @@ public final class AdventureTest {
         CHECKS.due("a room of the adventure before", quest.room(2, 0), -100);
         CHECKS.due("the same seed again", quest.make(-7, 12, 3, 3, 2), 13);
         expect(quest, "the same seed again", OF_MINUS_7, 11);
-    }
-
-    private static void makeRefused() {
-        int[][] refused = {
-            {1, 1, 0, 0}, {0, 1, 0, 0}, {-1, 1, 0, 0}, {13, 1, 0, 0}, {Integer.MAX_VALUE, 1, 0, 0},
-            {Integer.MIN_VALUE, 1, 0, 0}, {4, 0, 0, 0}, {4, -1, 0, 0}, {12, 4, 0, 0}, {2, 2, 0, 0}, {3, 3, 0, 0},
-            {2, 3, 0, 0}, {5, Integer.MAX_VALUE, 0, 0}, {4, 3, 4, 0}, {4, 3, -1, 0}, {4, 3, Integer.MIN_VALUE, 0},
-            {4, 3, 0, 3}, {4, 3, 0, -1}, {4, 3, 0, Integer.MAX_VALUE},
-        };
-        LockQuest quest = new LockQuest();
-        quest.make(12345, 8, 2, 2, 1);
-        quest.take();
-        quest.walk(0);
-        for (int[] a : refused) {
-            String call = "make(3, " + a[0] + ", " + a[1] + ", " + a[2] + ", " + a[3] + ")";
-            CHECKS.due(call, quest.make(3, a[0], a[1], a[2], a[3]), LockQuest.BAD);
-            CHECKS.due("here after " + call, quest.here(), 1);
-            CHECKS.due("having after " + call, quest.having(), 8);
-        }
-        expect(quest, "refused makes", OF_12345, 7);
-        int[][] edges = {{2, 1, 0, 0}, {12, 1, 0, 0}, {3, 2, 0, 0}, {4, 3, 0, 0}, {12, 3, 3, 2}};
-        for (int[] a : edges) {
-            String call = "make(3, " + a[0] + ", " + a[1] + ", " + a[2] + ", " + a[3] + ") is made";
-            CHECKS.due(call, quest.make(3, a[0], a[1], a[2], a[3]) >= a[0] - 1, true);
-            CHECKS.due(call + " with its last room", quest.room(a[0] - 1, 1) >= 0, true);
-            CHECKS.due(call + " with no more", quest.room(a[0], 1), -100);
-        }
-    }
-
-    private static void makeBeginsTheGame() {
-        LockQuest quest = new LockQuest();
-        quest.make(3, 3, 1, 0, 1);
-        quest.take();
-        quest.toggle();
-        quest.walk(0);
-        CHECKS.due("having before make", quest.having(), 65);
-        quest.make(3, 3, 1, 0, 1);
-        CHECKS.due("here after make", quest.here(), 0);
-        CHECKS.due("having after make", quest.having(), 0);
-        CHECKS.due("take after make", quest.take(), 1);
-    }
-
-    private static void roomRefused() {
-        LockQuest quest = new LockQuest();
-        quest.make(12345, 8, 2, 2, 1);
-        int[][] refused = {{-1, 0}, {8, 0}, {12, 0}, {0, -1}, {0, 8}, {7, 8}, {Integer.MAX_VALUE, 0},
-            {Integer.MIN_VALUE, 0}, {0, Integer.MAX_VALUE}, {0, Integer.MIN_VALUE}, {-1, -1}};
-        for (int[] a : refused) {
-            CHECKS.due("room(" + a[0] + ", " + a[1] + ")", quest.room(a[0], a[1]), -100);
-        }
-    }
-
-    private static void behindRefused() {
-        LockQuest quest = new LockQuest();
-        quest.make(12345, 8, 2, 2, 1);
-        int[][] refused = {{-1, 0}, {8, 0}, {12, 0}, {0, -1}, {0, 2}, {7, 1}, {Integer.MAX_VALUE, 0},
-            {Integer.MIN_VALUE, 0}, {0, Integer.MAX_VALUE}, {0, Integer.MIN_VALUE}};
-        for (int[] a : refused) {
-            CHECKS.due("behind(" + a[0] + ", " + a[1] + ")", quest.behind(a[0], a[1]), LockQuest.BAD);
-        }
     }
 
     private static void goal() {

@@ -7,10 +7,9 @@ public final class AgainstModelTest {
 
     public static void main(String[] args) {
         Random random = new Random(20261115);
-        LockQuest quest = new LockQuest();
-        compareFacts(quest, new Model(0, 2, 1, 0, 0), "new");
+        compareFacts(new LockQuest(), new Model(0, 2, 1, 0, 0), "new");
         for (int run = 0; run < 3000; run++) {
-            compareAdventure(quest, random, run);
+            compareAdventure(random, run);
         }
         for (int run = 0; run < 150; run++) {
             compareOutlooks(random);
@@ -18,7 +17,8 @@ public final class AgainstModelTest {
         CHECKS.end();
     }
 
-    private static void compareAdventure(LockQuest quest, Random random, int run) {
+    /** An object is used for at most 512 calls, so the facts and the game are looked at in two. */
+    private static void compareAdventure(Random random, int run) {
         long seed = run < EDGE_SEEDS.length ? EDGE_SEEDS[run] : random.nextLong();
         int rooms = 2 + random.nextInt(11);
         int levels = 1 + random.nextInt(Math.min(3, rooms - 1));
@@ -26,9 +26,15 @@ public final class AgainstModelTest {
         int barriers = random.nextInt(3);
         String name = "make(" + seed + ", " + rooms + ", " + levels + ", " + small + ", " + barriers + ")";
         Model model = new Model(seed, rooms, levels, small, barriers);
-        CHECKS.due(name, quest.make(seed, rooms, levels, small, barriers), model.allDoors());
-        compareFacts(quest, model, name);
-        play(quest, model, random, name, 60);
+        LockQuest seen = new LockQuest();
+        seen.make(random.nextLong(), 12, 3, 3, 2);
+        CHECKS.due(name, seen.make(seed, rooms, levels, small, barriers), model.allDoors());
+        compareFacts(seen, model, name);
+        LockQuest played = new LockQuest();
+        played.make(random.nextLong(), 12, 3, 3, 2);
+        played.take();
+        played.make(seed, rooms, levels, small, barriers);
+        play(played, model, random, name, 60);
     }
 
     private static void compareOutlooks(Random random) {

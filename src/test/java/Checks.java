@@ -1,6 +1,9 @@
 /** Prints the answers of one test that are not as due, and ends the test with exit code 1 if there were any. */
 final class Checks {
     private final String test;
+    private String sentence = "";
+    private int sentences;
+    private int madeBefore;
     private int made;
     private int wrong;
 
@@ -8,22 +11,47 @@ final class Checks {
         this.test = test;
     }
 
+    /** The answers from here on are those to which a sentence of the document holds the class. */
+    void sentence(String words) {
+        endSentence();
+        sentence = words;
+        sentences++;
+        madeBefore = made;
+    }
+
     void due(String call, long got, long want) {
-        made++;
-        if (got != want) {
-            wrong++;
-            System.out.println(test + ": " + call + " answered " + got + ", due is " + want);
-        }
+        due(call, String.valueOf(got), String.valueOf(want));
     }
 
     void due(String call, boolean got, boolean want) {
-        due(call, got ? 1L : 0L, want ? 1L : 0L);
+        due(call, String.valueOf(got), String.valueOf(want));
+    }
+
+    void due(String call, String got, String want) {
+        made++;
+        if (!got.equals(want)) {
+            wrong++;
+            System.out.println(test + ": " + call + " answered " + got + ", due is " + want + saidWhere());
+        }
     }
 
     void end() {
-        System.out.println(test + ": " + made + " answers, " + wrong + " not as due");
+        endSentence();
+        String held = sentences == 0 ? "" : sentences + " sentences, ";
+        System.out.println(test + ": " + held + made + " answers, " + wrong + " not as due");
         if (wrong != 0 || made == 0) {
             System.exit(1);
         }
+    }
+
+    private void endSentence() {
+        if (sentences > 0 && made == madeBefore) {
+            wrong++;
+            System.out.println(test + ": no answer was looked at" + saidWhere());
+        }
+    }
+
+    private String saidWhere() {
+        return sentences == 0 ? "" : " [" + sentence + "]";
     }
 }

@@ -1,4 +1,4 @@
-/** Promises 6 to 11: restart, walk, take, toggle, here, having. */
+/** Promises 6 to 11: restart, walk, take, toggle, here, having. Their edges are in GameEdgesTest. */
 public final class GameTest {
     private static final Checks CHECKS = new Checks("GameTest");
 
@@ -9,7 +9,6 @@ public final class GameTest {
         redAndBlue();
         loopsArePlain();
         restart();
-        refusalsChangeNothing();
         CHECKS.end();
     }
 
@@ -146,20 +145,5 @@ public final class GameTest {
         expect(quest, 0, 9);
         CHECKS.due("goal after restart", quest.goal(), 11);
         CHECKS.due("what lies in room 0 after take", quest.room(0, 5), 9);
-    }
-
-    private static void refusalsChangeNothing() {
-        LockQuest quest = new LockQuest();
-        quest.make(12345, 8, 2, 2, 1);
-        int[] noDoors = {-1, 2, 3, 11, 12, 100, 200, Integer.MAX_VALUE, Integer.MIN_VALUE};
-        for (int i : noDoors) {
-            walk(quest, i, LockQuest.BAD);
-            expect(quest, 0, 0);
-        }
-        walk(quest, 0, LockQuest.LOCKED);
-        walk(quest, 1, LockQuest.LOCKED);
-        CHECKS.due("toggle without a switch", quest.toggle(), LockQuest.BAD);
-        expect(quest, 0, 0);
-        CHECKS.due("situations after refusals", quest.situations(), 104);
     }
 }

@@ -1,4 +1,4 @@
-/** Promises 12 to 15: steps, hint, situations, safe. */
+/** Promises 12 to 15: steps, hint, situations, safe. Their edges are in OutlookEdgesTest and StuckTest. */
 public final class OutlookTest {
     private static final Checks CHECKS = new Checks("OutlookTest");
 
@@ -8,7 +8,6 @@ public final class OutlookTest {
         countedByHand();
         hintsLeadToTheGoal();
         askingChangesNothing();
-        nobodyGetsStuck();
         CHECKS.end();
     }
 
@@ -111,15 +110,6 @@ public final class OutlookTest {
             CHECKS.due("safe, asked again", quest.safe(), true);
             CHECKS.due("here after asking", quest.here(), 1);
             CHECKS.due("having after asking", quest.having(), 65);
-        }
-    }
-
-    private static void nobodyGetsStuck() {
-        LockQuest quest = new LockQuest();
-        for (int seed = 0; seed < 300; seed++) {
-            quest.make(seed * 7919L, 2 + seed % 11, 1, seed % 4, seed % 3);
-            CHECKS.due("safe of seed " + seed, quest.safe(), true);
-            CHECKS.due("the goal of seed " + seed + " is not here", quest.steps() >= 2, true);
         }
     }
 }
