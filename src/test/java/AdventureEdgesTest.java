@@ -10,30 +10,31 @@ public final class AdventureEdgesTest {
             + "| small keys 1:0 | barriers 2:0 2:1 | goal 1:0 | places 4:2 4:3 4:0 4:1 | loops 3:0";
 
     public static void main(String[] args) {
-        newObject();
-        roomsOfMake();
-        levelsOfMake();
-        levelsLessThanRooms();
-        smallOfMake();
-        barriersOfMake();
-        boundsOfMakeTogether();
-        anySeed();
-        doorsWithoutLoops();
-        doorsWithLoops();
-        makeBeginsItsGame();
-        parentOfRoomZero();
-        doorOfRoomZero();
-        negativePlaces();
-        whatLiesAtFirst();
-        keysLyingTogether();
-        switchOrNone();
-        noSuchRoom();
-        noSuchFact();
-        roomsOfALargerAdventureBefore();
-        noSuchDoorBehind();
-        noSuchRoomBehind();
-        goalStays();
-        CHECKS.end();
+        CHECKS.run(
+                AdventureEdgesTest::newObject,
+                AdventureEdgesTest::roomsOfMake,
+                AdventureEdgesTest::levelsOfMake,
+                AdventureEdgesTest::levelsLessThanRooms,
+                AdventureEdgesTest::smallOfMake,
+                AdventureEdgesTest::barriersOfMake,
+                AdventureEdgesTest::boundsOfMakeTogether,
+                AdventureEdgesTest::anySeed,
+                AdventureEdgesTest::doorsWithoutLoops,
+                AdventureEdgesTest::doorsWithLoops,
+                AdventureEdgesTest::makeBeginsItsGame,
+                AdventureEdgesTest::parentOfRoomZero,
+                AdventureEdgesTest::doorOfRoomZero,
+                AdventureEdgesTest::negativePlaces,
+                AdventureEdgesTest::whatLiesAtFirst,
+                AdventureEdgesTest::keysLyingTogether,
+                AdventureEdgesTest::switchOrNone,
+                AdventureEdgesTest::noSuchRoom,
+                AdventureEdgesTest::noSuchFact,
+                AdventureEdgesTest::roomsOfALargerAdventureBefore,
+                AdventureEdgesTest::noSuchDoorBehind,
+                AdventureEdgesTest::doorsOfALargerAdventureBefore,
+                AdventureEdgesTest::noSuchRoomBehind,
+                AdventureEdgesTest::goalStays);
     }
 
     private static LockQuest square() {
@@ -42,11 +43,20 @@ public final class AdventureEdgesTest {
         return quest;
     }
 
-    private static void newObject() {
-        CHECKS.sentence("LockQuest(): The adventure of make(0, 2, 1, 0, 0).");
+    private static LockQuest twoRoomsAfterTwelve() {
         LockQuest quest = new LockQuest();
-        CHECKS.due("a new object", Sight.all(quest), "goal 1 | -1 0 | 0 1 | 0 1 | 0 1 | 0 0 | 1 0 | 0 0 | 1 1 | 1 | 0 "
-                + "| here 0 having 0 steps 2 hint 100 situations 3 safe true");
+        quest.make(-7, 12, 3, 3, 2);
+        CHECKS.due("room(11, 1) of twelve rooms", quest.room(11, 1), 3);
+        CHECKS.due("behind(0, 3) of twelve rooms", quest.behind(0, 3), 10);
+        CHECKS.due("make(0, 2, 1, 0, 0)", quest.make(0, 2, 1, 0, 0), 1);
+        return quest;
+    }
+
+    private static void newObject() {
+        CHECKS.sentence("Promise 1", "The adventure of make(0, 2, 1, 0, 0).", "and its game begun");
+        LockQuest quest = new LockQuest();
+        CHECKS.due("a new object", Sight.all(quest), "here 0 having 0 steps 2 hint 100 situations 3 safe true "
+                + "| goal 1 | -1 0 | 0 1 | 0 1 | 0 1 | 0 0 | 1 0 | 0 0 | 1 1 | 1 | 0");
         LockQuest other = square();
         other.take();
         CHECKS.due("make(0, 2, 1, 0, 0)", other.make(0, 2, 1, 0, 0), 1);
@@ -63,7 +73,7 @@ public final class AdventureEdgesTest {
     }
 
     private static void roomsOfMake() {
-        CHECKS.sentence("BAD when rooms is not 2 .. 12");
+        CHECKS.sentence("Promise 2", "BAD when rooms is not 2 .. 12", "rooms alone");
         for (int rooms : new int[] {LEAST, -2, -1, 0, 1, 13, 14, 256 + 5, 1 << 16, MOST}) {
             isMade(rooms, 1, 0, 0, false);
         }
@@ -72,7 +82,7 @@ public final class AdventureEdgesTest {
     }
 
     private static void levelsOfMake() {
-        CHECKS.sentence("BAD when [..] levels not 1 .. 3");
+        CHECKS.sentence("Promise 2", "levels not 1 .. 3", "levels alone");
         for (int levels : new int[] {LEAST, -1, 0, 4, 5, 11, MOST}) {
             isMade(12, levels, 0, 0, false);
         }
@@ -81,7 +91,7 @@ public final class AdventureEdgesTest {
     }
 
     private static void levelsLessThanRooms() {
-        CHECKS.sentence("BAD when [..] levels [..] not less than rooms");
+        CHECKS.sentence("Promise 2", "or not less than rooms", "as many, one less");
         isMade(2, 2, 0, 0, false);
         isMade(2, 3, 0, 0, false);
         isMade(3, 3, 0, 0, false);
@@ -91,7 +101,7 @@ public final class AdventureEdgesTest {
     }
 
     private static void smallOfMake() {
-        CHECKS.sentence("BAD when [..] small not 0 .. 3");
+        CHECKS.sentence("Promise 2", "small not 0 .. 3", "small alone");
         for (int small : new int[] {LEAST, -1, 4, 5, MOST}) {
             isMade(12, 2, small, 0, false);
         }
@@ -100,7 +110,7 @@ public final class AdventureEdgesTest {
     }
 
     private static void barriersOfMake() {
-        CHECKS.sentence("BAD when [..] barriers not 0 .. 2");
+        CHECKS.sentence("Promise 2", "or barriers not 0 .. 2.", "barriers alone");
         for (int barriers : new int[] {LEAST, -1, 3, 4, MOST}) {
             isMade(12, 2, 0, barriers, false);
         }
@@ -109,8 +119,8 @@ public final class AdventureEdgesTest {
     }
 
     private static void boundsOfMakeTogether() {
-        CHECKS.sentence("BAD when rooms is not 2 .. 12, levels not 1 .. 3 or not less than rooms, small not 0 .. 3, or "
-                + "barriers not 0 .. 2.");
+        CHECKS.sentence("Promise 2", "BAD when rooms is not 2 .. 12, levels not 1 .. 3 or not less than rooms, small "
+                + "not 0 .. 3, or barriers not 0 .. 2.", "all bounds, within and one beyond");
         for (int rooms = 1; rooms <= 13; rooms++) {
             for (int levels = 0; levels <= 4; levels++) {
                 for (int small = -1; small <= 4; small++) {
@@ -125,16 +135,16 @@ public final class AdventureEdgesTest {
     }
 
     private static void anySeed() {
-        CHECKS.sentence("make(long seed, [..]): [..] BAD when [..] (no seed is out of bounds)");
+        CHECKS.sentence("Promise 2", "Makes an adventure with R = rooms, K = levels", "of any seed");
         for (long seed : new long[] {Long.MIN_VALUE, -1, 0, 1, Long.MAX_VALUE}) {
             LockQuest quest = new LockQuest();
-            CHECKS.due("make(" + seed + ", 12, 3, 3, 2) makes 11 doors or more", quest.make(seed, 12, 3, 3, 2) >= 11, true);
+            CHECKS.due("make(" + seed + ", 12, 3, 3, 2) is made", quest.make(seed, 12, 3, 3, 2) >= 11, true);
             CHECKS.due("the last room of seed " + seed, quest.room(11, Sight.LEVEL) >= 0, true);
         }
     }
 
     private static void doorsWithoutLoops() {
-        CHECKS.sentence("how many doors there are, loops and all (there are none)");
+        CHECKS.sentence("Promise 2", "how many doors there are, loops and all", "no loops");
         LockQuest quest = new LockQuest();
         CHECKS.due("make of two rooms", quest.make(9, 2, 1, 3, 2), 1);
         String script = SQUARE.replace("loops 3:0", "loops 3:1");
@@ -142,7 +152,7 @@ public final class AdventureEdgesTest {
     }
 
     private static void doorsWithLoops() {
-        CHECKS.sentence("how many doors there are, loops and all");
+        CHECKS.sentence("Promise 2", "how many doors there are, loops and all", "one loop, two loops");
         CHECKS.due("the doors of the square", Sight.facts(square(), Sight.DOORS), "3 2 2 2 1");
         String script = "rooms 1:0 4:+ 2:0 4:+ 3:1 4:+ 4:3 4:+ 5:4 4:+ 6:5 | keys 6:* | goal 1:0 "
                 + "| places 4:1 4:0 4:1 4:0 4:3 4:* | loops ";
@@ -153,7 +163,7 @@ public final class AdventureEdgesTest {
     }
 
     private static void makeBeginsItsGame() {
-        CHECKS.sentence("and begins its game");
+        CHECKS.sentence("Promise 2", "and begins its game", "after another game");
         LockQuest quest = square();
         quest.take();
         quest.walk(0);
@@ -167,13 +177,14 @@ public final class AdventureEdgesTest {
     }
 
     private static void parentOfRoomZero() {
-        CHECKS.sentence("what = 0 its parent (-1 for room 0)");
+        CHECKS.sentence("Promise 3", "what = 0 its parent (-1 for room 0)", "room 0");
         CHECKS.due("room(0, 0) of a new object", new LockQuest().room(0, 0), -1);
         CHECKS.due("the parents in the square", Sight.facts(square(), 0), "-1 0 1 2 0");
     }
 
     private static void doorOfRoomZero() {
-        CHECKS.sentence("2 its door's kind (0 plain, also for room 0; 1 a lock, 2 small, 3 red, 4 blue)");
+        CHECKS.sentence("Promise 3", "2 its door's kind (0 plain, also for room 0; 1 a lock, 2 small, 3 red, 4 blue)",
+                "room 0, and each kind");
         CHECKS.due("the kinds in the square", Sight.facts(square(), 2), "0 2 4 0 1");
         LockQuest red = new LockQuest();
         red.make(Draws.seedOf("rooms 1:0 4:0 2:0 | keys 2:1 | barriers 1:0 2:0"), 3, 1, 0, 2);
@@ -181,14 +192,14 @@ public final class AdventureEdgesTest {
     }
 
     private static void negativePlaces() {
-        CHECKS.sentence("3 x, 4 y of its place (below 0)");
+        CHECKS.sentence("Promise 3", "3 x, 4 y of its place", "less than 0");
         LockQuest quest = square();
         CHECKS.due("x in the square", Sight.facts(quest, 3), "0 -1 -1 0 0");
         CHECKS.due("y in the square", Sight.facts(quest, 4), "0 0 -1 -1 1");
     }
 
     private static void whatLiesAtFirst() {
-        CHECKS.sentence("5 what lies there at first");
+        CHECKS.sentence("Promise 3", "5 what lies there at first", "when it was taken");
         LockQuest quest = square();
         CHECKS.due("what lies in the square", Sight.facts(quest, 5), "9 0 0 0 0");
         CHECKS.due("take", quest.take(), 2);
@@ -196,7 +207,8 @@ public final class AdventureEdgesTest {
     }
 
     private static void keysLyingTogether() {
-        CHECKS.sentence("(the sum of 2^(l - 1) for keys l, and of 8 * 2^i for small keys i)");
+        CHECKS.sentence("Promise 3", "(the sum of 2^(l - 1) for keys l, and of 8 * 2^i for small keys i)",
+                "all of them, some, none");
         String rooms = "rooms 1:0 4:+ 2:0 4:+ 3:0 4:+ 4:0 4:+ 5:0 1:0 1:0 | keys ";
         LockQuest all = new LockQuest();
         all.make(Draws.seedOf(rooms + "5:0 6:0 7:0 | small doors 4:0 3:0 2:0 | small keys 2:0 2:0 2:0"), 8, 3, 3, 0);
@@ -207,13 +219,13 @@ public final class AdventureEdgesTest {
     }
 
     private static void switchOrNone() {
-        CHECKS.sentence("6 whether it has a switch (1 or 0)");
+        CHECKS.sentence("Promise 3", "6 whether it has a switch (1 or 0)", "1 and 0");
         CHECKS.due("the switches in the square", Sight.facts(square(), 6), "0 1 1 0 0");
         CHECKS.due("the switches of a new object", Sight.facts(new LockQuest(), 6), "0 0");
     }
 
     private static void noSuchRoom() {
-        CHECKS.sentence("-100 when there is no such room");
+        CHECKS.sentence("Promise 3", "-100 when there is no such room", "too small, too large");
         LockQuest quest = square();
         for (int r : new int[] {LEAST, -100, -2, -1, 5, 6, 11, 12, 13, 256, MOST}) {
             for (int what = 0; what <= 7; what++) {
@@ -225,7 +237,7 @@ public final class AdventureEdgesTest {
     }
 
     private static void noSuchFact() {
-        CHECKS.sentence("-100 when [..] what is not 0 .. 7.");
+        CHECKS.sentence("Promise 3", "or what is not 0 .. 7.", "too small, too large");
         LockQuest quest = square();
         for (int what : new int[] {LEAST, -8, -1, 8, 9, 256, MOST}) {
             for (int r = -1; r <= 5; r++) {
@@ -236,24 +248,18 @@ public final class AdventureEdgesTest {
     }
 
     private static void roomsOfALargerAdventureBefore() {
-        CHECKS.sentence("-100 when there is no such room; BAD when there is none (as there was in the adventure before)");
-        LockQuest quest = new LockQuest();
-        quest.make(-7, 12, 3, 3, 2);
-        CHECKS.due("room(11, 1) of 12 rooms", quest.room(11, 1), 3);
-        CHECKS.due("behind(11, 0) of 12 rooms", quest.behind(11, 0), 7);
-        quest.make(0, 2, 1, 0, 0);
+        CHECKS.sentence("Promise 3", "-100 when there is no such room", "there was one in the adventure before");
+        LockQuest quest = twoRoomsAfterTwelve();
         for (int r = 2; r < 12; r++) {
             CHECKS.due("room(" + r + ", 1) of two rooms", quest.room(r, 1), -100);
-            CHECKS.due("behind(" + r + ", 0) of two rooms", quest.behind(r, 0), LockQuest.BAD);
         }
-        CHECKS.due("behind(0, 1) of two rooms", quest.behind(0, 1), LockQuest.BAD);
-        CHECKS.due("walk(1) in two rooms", quest.walk(1), LockQuest.BAD);
         CHECKS.due("what lies in two rooms", Sight.facts(quest, 5), "1 0");
         CHECKS.due("the switches in two rooms", Sight.facts(quest, 6), "0 0");
+        CHECKS.due("the doors in two rooms", Sight.facts(quest, 7), "1 1");
     }
 
     private static void noSuchDoorBehind() {
-        CHECKS.sentence("The room behind door i of room r; BAD when there is none. (no such door)");
+        CHECKS.sentence("Promise 4", "The room behind door i of room r; BAD when there is none.", "no such door");
         LockQuest quest = square();
         int[] doors = {3, 2, 2, 2, 1};
         for (int r = 0; r < 5; r++) {
@@ -265,8 +271,19 @@ public final class AdventureEdgesTest {
         CHECKS.due("the first door of room 0", quest.behind(0, 0), 1);
     }
 
+    private static void doorsOfALargerAdventureBefore() {
+        CHECKS.sentence("Promise 4", "The room behind door i of room r; BAD when there is none.",
+                "there was one in the adventure before");
+        LockQuest quest = twoRoomsAfterTwelve();
+        for (int r = 0; r < 12; r++) {
+            CHECKS.due("behind(" + r + ", 0) of two rooms", quest.behind(r, 0), r < 2 ? 1 - r : LockQuest.BAD);
+            CHECKS.due("behind(" + r + ", 1) of two rooms", quest.behind(r, 1), LockQuest.BAD);
+        }
+        CHECKS.due("walk(1) in two rooms", quest.walk(1), LockQuest.BAD);
+    }
+
     private static void noSuchRoomBehind() {
-        CHECKS.sentence("The room behind door i of room r; BAD when there is none. (no such room)");
+        CHECKS.sentence("Promise 4", "The room behind door i of room r; BAD when there is none.", "no such room");
         LockQuest quest = square();
         for (int r : new int[] {LEAST, -1, 5, 6, 11, 12, MOST}) {
             for (int i = -1; i <= 3; i++) {
@@ -277,7 +294,7 @@ public final class AdventureEdgesTest {
     }
 
     private static void goalStays() {
-        CHECKS.sentence("goal(): The goal. (the first room that can be it, and whatever is done in the game)");
+        CHECKS.sentence("Promise 5", "The goal.", "whatever is done in the game");
         LockQuest quest = new LockQuest();
         CHECKS.due("the goal of two rooms", quest.goal(), 1);
         quest.take();

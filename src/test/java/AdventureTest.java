@@ -1,4 +1,4 @@
-/** Promises 1 to 5: a new object, make, room, behind, goal. Their edges are in AdventureEdgesTest and MakingEdgesTest. */
+/** Promises 1 to 5: a new object, make, room, behind, goal. AdventureEdgesTest and MakingEdgesTest have their edges. */
 public final class AdventureTest {
     private static final Checks CHECKS = new Checks("AdventureTest");
 

@@ -11,10 +11,31 @@ final class Checks {
         this.test = test;
     }
 
-    /** The answers from here on are those to which a sentence of the document holds the class. */
-    void sentence(String words) {
+    interface Part {
+        void run() throws ReflectiveOperationException;
+    }
+
+    /** Runs the parts one by one: what one of them throws is not as due, and keeps no other from being run. */
+    void run(Part... parts) {
+        for (Part part : parts) {
+            try {
+                part.run();
+            } catch (ReflectiveOperationException | RuntimeException thrown) {
+                made++;
+                wrong++;
+                System.out.println(test + ": threw " + thrown + saidWhere());
+            }
+        }
+        end();
+    }
+
+    /**
+     * The answers from here on are those to which a sentence of the document holds the class, at one of its edges:
+     * where it stands, its words (those left out are "[..]"), the edge.
+     */
+    void sentence(String section, String words, String edge) {
         endSentence();
-        sentence = words;
+        sentence = section + ": " + words + " -- " + edge;
         sentences++;
         madeBefore = made;
     }

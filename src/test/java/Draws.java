@@ -1,3 +1,5 @@
+import java.util.Arrays;
+
 /** Finds seeds by what they draw, so that a test can say what is drawn, and a reader follow the document with it. */
 final class Draws {
     private static final long MOST_SEEDS = 2_000_000_000L;
@@ -21,7 +23,7 @@ final class Draws {
     }
 
     private static int[][] drawsOf(String script) {
-        return java.util.Arrays.stream(script.split(" ")).filter(word -> word.contains(":")).map(Draws::drawOf)
+        return Arrays.stream(script.split(" ")).filter(word -> word.contains(":")).map(Draws::drawOf)
                 .toArray(int[][]::new);
     }
 

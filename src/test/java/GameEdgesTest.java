@@ -8,7 +8,8 @@ public final class GameEdgesTest {
 
     // Room 1 has key 1, room 0 key 2; room 2 behind a lock of level 1, room 3 behind that behind one of level 2.
     private static final String LOCKS = "rooms 1:0 4:+ 2:0 1:0 | keys 2:1 3:0 | goal 1:0 | places 4:0 4:1 4:2";
-    // Rooms 1 and 2 behind small doors, small key 1 in room 0, small key 0 in room 3; room 4 behind a lock; key in room 1.
+    // Rooms 1 and 2 behind small doors, room 4 behind a lock; small key 1 in room 0, small key 0 in room 3, the key in
+    // room 1.
     private static final String SMALL = "rooms 1:0 4:+ 2:0 4:+ 3:0 4:+ 4:0 | keys 4:1 | small doors 3:0 2:0 "
             + "| small keys 2:1 2:0 | goal 1:0 | places 4:0 4:1 4:2 4:3";
     // Rooms 0 to 3 in a square that a loop from room 3 to room 0 closes; behind(0): 1 4 3. Room 1's door follows.
@@ -19,38 +20,38 @@ public final class GameEdgesTest {
             + "| small doors 4:0 3:0 2:0 | small keys 2:0 2:0 2:0 | barriers 1:0 2:0 | goal 1:0";
 
     public static void main(String[] args) {
-        atFirst();
-        aLockNeedsItsOwnKey();
-        aKeyStays();
-        noSmallKey();
-        asManySmallDoorsOpenedAsKeysTaken();
-        anOpenedSmallDoorStaysOpen();
-        aSmallDoorFromBehind();
-        red();
-        blue();
-        loopsArePlain();
-        takeAll();
-        takeNothing();
-        toggleToAndFro();
-        refusedMake();
-        refusedRoomAndBehind();
-        refusedWalk();
-        lockedWalk();
-        refusedToggle();
-        refusedHint();
-        orderOfRefusals();
-        restartFromTheGoal();
-        restartTwice();
-        walkWithoutSuchADoor();
-        walkLocked();
-        walkToAndFro();
-        takeHowMany();
-        toggleWithoutASwitch();
-        hereAtFirst();
-        havingNothing();
-        havingAll();
-        havingSmallKeysCounted();
-        CHECKS.end();
+        CHECKS.run(
+                GameEdgesTest::atFirst,
+                GameEdgesTest::aLockNeedsItsOwnKey,
+                GameEdgesTest::aKeyStays,
+                GameEdgesTest::noSmallKey,
+                GameEdgesTest::asManySmallDoorsOpenedAsKeysTaken,
+                GameEdgesTest::anOpenedSmallDoorStaysOpen,
+                GameEdgesTest::aSmallDoorFromBehind,
+                GameEdgesTest::red,
+                GameEdgesTest::blue,
+                GameEdgesTest::loopsArePlain,
+                GameEdgesTest::takeAll,
+                GameEdgesTest::takeNothing,
+                GameEdgesTest::toggleToAndFro,
+                GameEdgesTest::refusedMake,
+                GameEdgesTest::refusedRoomAndBehind,
+                GameEdgesTest::refusedWalk,
+                GameEdgesTest::lockedWalk,
+                GameEdgesTest::refusedToggle,
+                GameEdgesTest::refusedHint,
+                GameEdgesTest::orderOfRefusals,
+                GameEdgesTest::restartFromTheGoal,
+                GameEdgesTest::restartTwice,
+                GameEdgesTest::walkWithoutSuchADoor,
+                GameEdgesTest::walkLocked,
+                GameEdgesTest::walkToAndFro,
+                GameEdgesTest::takeHowMany,
+                GameEdgesTest::toggleWithoutASwitch,
+                GameEdgesTest::hereAtFirst,
+                GameEdgesTest::havingNothing,
+                GameEdgesTest::havingAll,
+                GameEdgesTest::havingSmallKeysCounted);
     }
 
     private static LockQuest made(String script, int rooms, int levels, int small, int barriers) {
@@ -102,8 +103,9 @@ public final class GameEdgesTest {
     }
 
     private static void atFirst() {
-        CHECKS.sentence("Its SITUATION: the room where one is, at first 0; the keys one has; the small keys that were taken; "
-                + "the small doors that were opened; the SWITCH POSITION, 0 or 1, at first 0.");
+        CHECKS.sentence("THE GAME", "Its SITUATION: the room where one is, at first 0; the keys one has; the small "
+                + "keys that were taken; the small doors that were opened; the SWITCH POSITION, 0 or 1, at first 0.",
+                "at first");
         LockQuest quest = treasure();
         CHECKS.due("here at first", quest.here(), 0);
         having(quest, 0);
@@ -115,7 +117,7 @@ public final class GameEdgesTest {
     }
 
     private static void aLockNeedsItsOwnKey() {
-        CHECKS.sentence("A lock of level l needs key l (another one will not do)");
+        CHECKS.sentence("THE GAME", "A lock of level l needs key l", "no key, another key");
         LockQuest quest = locks();
         walk(quest, 1, LockQuest.LOCKED);
         take(quest, 1);
@@ -136,7 +138,7 @@ public final class GameEdgesTest {
     }
 
     private static void aKeyStays() {
-        CHECKS.sentence("A lock of level l needs key l (which stays)");
+        CHECKS.sentence("THE GAME", "A lock of level l needs key l (which stays)", "used many times");
         LockQuest quest = new LockQuest();
         take(quest, 1);
         for (int n = 0; n < 4; n++) {
@@ -148,8 +150,8 @@ public final class GameEdgesTest {
     }
 
     private static void noSmallKey() {
-        CHECKS.sentence("a small door that was not opened needs that more small keys were taken than small doors opened "
-                + "(none of either)");
+        CHECKS.sentence("THE GAME", "a small door that was not opened needs that more small keys were taken than small "
+                + "doors opened, and is opened then", "none taken, none opened");
         LockQuest quest = small();
         walk(quest, 0, LockQuest.LOCKED);
         walk(quest, 1, LockQuest.LOCKED);
@@ -160,8 +162,8 @@ public final class GameEdgesTest {
     }
 
     private static void asManySmallDoorsOpenedAsKeysTaken() {
-        CHECKS.sentence("a small door that was not opened needs that more small keys were taken than small doors opened "
-                + "(as many)");
+        CHECKS.sentence("THE GAME", "a small door that was not opened needs that more small keys were taken than small "
+                + "doors opened, and is opened then", "as many taken as opened");
         LockQuest quest = small();
         take(quest, 1);
         walk(quest, 0, 1);
@@ -176,7 +178,8 @@ public final class GameEdgesTest {
     }
 
     private static void anOpenedSmallDoorStaysOpen() {
-        CHECKS.sentence("and is opened then (and needs nothing any more)");
+        CHECKS.sentence("THE GAME", "a small door that was not opened needs that more small keys were taken than small "
+                + "doors opened, and is opened then", "it was opened");
         LockQuest quest = small();
         take(quest, 1);
         for (int n = 0; n < 3; n++) {
@@ -193,8 +196,8 @@ public final class GameEdgesTest {
     }
 
     private static void aSmallDoorFromBehind() {
-        CHECKS.sentence("a small door that was not opened needs that more small keys were taken than small doors opened, and "
-                + "is opened then (from the side that is not its parent's)");
+        CHECKS.sentence("THE GAME", "a small door that was not opened needs that more small keys were taken than small "
+                + "doors opened, and is opened then", "from the side that is not its parent's");
         LockQuest quest = squareWithSmallDoor();
         walk(quest, 0, LockQuest.LOCKED);
         walk(quest, 2, 3);
@@ -213,7 +216,7 @@ public final class GameEdgesTest {
     }
 
     private static void red() {
-        CHECKS.sentence("a red door needs position 0");
+        CHECKS.sentence("THE GAME", "a red door needs position 0", "both positions, from both sides");
         LockQuest quest = squareWithRedDoor();
         walk(quest, 0, 1);
         walk(quest, 0, 0);
@@ -228,7 +231,7 @@ public final class GameEdgesTest {
     }
 
     private static void blue() {
-        CHECKS.sentence("a blue one position 1");
+        CHECKS.sentence("THE GAME", "a blue one position 1", "both positions, from both sides");
         LockQuest quest = squareWithBlueDoor();
         walk(quest, 0, LockQuest.LOCKED);
         toggle(quest, 1);
@@ -242,7 +245,7 @@ public final class GameEdgesTest {
     }
 
     private static void loopsArePlain() {
-        CHECKS.sentence("a plain door leads from one to the other besides (it needs nothing, whatever door its rooms have)");
+        CHECKS.sentence("LOOPS", "a plain door leads from one to the other besides.", "whatever doors its rooms have");
         LockQuest quest = squareWithRedDoor();
         toggle(quest, 1);
         walk(quest, 2, 3);
@@ -259,7 +262,7 @@ public final class GameEdgesTest {
     }
 
     private static void takeAll() {
-        CHECKS.sentence("to TAKE all that lies in the room and was not taken (all there are)");
+        CHECKS.sentence("THE GAME", "to TAKE all that lies in the room and was not taken", "all there are");
         LockQuest quest = treasure();
         take(quest, 6);
         having(quest, 31);
@@ -271,7 +274,8 @@ public final class GameEdgesTest {
     }
 
     private static void takeNothing() {
-        CHECKS.sentence("to TAKE all that lies in the room and was not taken (nothing lies there, or it was taken)");
+        CHECKS.sentence("THE GAME", "to TAKE all that lies in the room and was not taken",
+                "nothing lies there, or it was taken");
         LockQuest quest = treasure();
         walk(quest, 3, 4);
         take(quest, 0);
@@ -286,7 +290,8 @@ public final class GameEdgesTest {
     }
 
     private static void toggleToAndFro() {
-        CHECKS.sentence("to TOGGLE, where there is a switch: the position becomes the other one.");
+        CHECKS.sentence("THE GAME", "to TOGGLE, where there is a switch: the position becomes the other one.",
+                "and the first one again");
         LockQuest quest = squareWithRedDoor();
         for (int n = 0; n < 3; n++) {
             toggle(quest, 1);
@@ -312,17 +317,21 @@ public final class GameEdgesTest {
         return quest;
     }
 
-    /** Compares an object on which the call was refused with one on which it was not made, at once and as games go on. */
+    /**
+     * Compares an object on which the call was refused with one on which it was not made, at once and as games go on.
+     * The adventure comes last, as it is seen with refused calls too.
+     */
     private static void changesNothing(String call, ToIntFunction<LockQuest> refused, int due, int... before) {
         LockQuest quest = played(before);
         LockQuest other = played(before);
         CHECKS.due(call, refused.applyAsInt(quest), due);
-        CHECKS.due("all that can be seen after " + call, Sight.all(quest), Sight.all(other));
+        CHECKS.due("the game after " + call, Sight.game(quest), Sight.game(other));
         int[] after = {0, TAKE, TOGGLE, 1, TAKE, 2, TOGGLE, 0, 1, TAKE, 0, 2, TAKE, 1, 1, 0};
         for (int action : after) {
             CHECKS.due("action " + action + " after " + call, act(quest, action), act(other, action));
-            CHECKS.due("the game after " + call, Sight.game(quest), Sight.game(other));
+            CHECKS.due("the game then", Sight.game(quest), Sight.game(other));
         }
+        CHECKS.due("the adventure after " + call, Sight.adventure(quest), Sight.adventure(other));
     }
 
     // Where the games of seed 12345 are when the refused calls come.
@@ -333,9 +342,9 @@ public final class GameEdgesTest {
     private static final int[] THE_GOAL = {TAKE, 0, TAKE, TOGGLE, 1, 2, TAKE, 1, 1};
 
     private static void refusedMake() {
-        CHECKS.sentence("A call that is refused changes nothing (make)");
-        int[][] wrong = {{1, 1, 0, 0}, {13, 1, 0, 0}, {5, 0, 0, 0}, {5, 4, 0, 0}, {3, 3, 0, 0}, {5, 1, -1, 0}, {5, 1, 4, 0},
-            {5, 1, 0, -1}, {5, 1, 0, 3}, {13, 4, 4, 3}};
+        CHECKS.sentence("THE GAME", "A call that is refused changes nothing", "make");
+        int[][] wrong = {{1, 1, 0, 0}, {13, 1, 0, 0}, {5, 0, 0, 0}, {5, 4, 0, 0}, {3, 3, 0, 0}, {5, 1, -1, 0},
+            {5, 1, 4, 0}, {5, 1, 0, -1}, {5, 1, 0, 3}, {13, 4, 4, 3}};
         for (int[] a : wrong) {
             String call = "make(1, " + a[0] + ", " + a[1] + ", " + a[2] + ", " + a[3] + ")";
             changesNothing(call, quest -> quest.make(1, a[0], a[1], a[2], a[3]), LockQuest.BAD, START);
@@ -345,7 +354,7 @@ public final class GameEdgesTest {
     }
 
     private static void refusedRoomAndBehind() {
-        CHECKS.sentence("A call that is refused changes nothing (room, behind)");
+        CHECKS.sentence("THE GAME", "A call that is refused changes nothing", "room, behind");
         changesNothing("room(8, 0)", quest -> quest.room(8, 0), -100, ROOM_1);
         changesNothing("room(-1, 5)", quest -> quest.room(-1, 5), -100, ROOM_1);
         changesNothing("room(0, 8)", quest -> quest.room(0, 8), -100, ROOM_5);
@@ -355,7 +364,7 @@ public final class GameEdgesTest {
     }
 
     private static void refusedWalk() {
-        CHECKS.sentence("A call that is refused changes nothing (walk where there is no such door)");
+        CHECKS.sentence("THE GAME", "A call that is refused changes nothing", "walk, no such door");
         changesNothing("walk(2) in room 0", quest -> quest.walk(2), LockQuest.BAD, START);
         changesNothing("walk(2) in room 1", quest -> quest.walk(2), LockQuest.BAD, ROOM_1);
         changesNothing("walk(-1) in room 5", quest -> quest.walk(-1), LockQuest.BAD, ROOM_5);
@@ -363,7 +372,7 @@ public final class GameEdgesTest {
     }
 
     private static void lockedWalk() {
-        CHECKS.sentence("A call that is refused changes nothing (walk where the door does not open)");
+        CHECKS.sentence("THE GAME", "A call that is refused changes nothing", "walk, the door does not open");
         changesNothing("walk(0), a small door", quest -> quest.walk(0), LockQuest.LOCKED, START);
         changesNothing("walk(1), a small door", quest -> quest.walk(1), LockQuest.LOCKED, START);
         changesNothing("walk(1), a blue door", quest -> quest.walk(1), LockQuest.LOCKED, ROOM_1);
@@ -371,20 +380,20 @@ public final class GameEdgesTest {
     }
 
     private static void refusedToggle() {
-        CHECKS.sentence("A call that is refused changes nothing (toggle where there is no switch)");
+        CHECKS.sentence("THE GAME", "A call that is refused changes nothing", "toggle");
         changesNothing("toggle in room 0", LockQuest::toggle, LockQuest.BAD, START);
         changesNothing("toggle in room 5", LockQuest::toggle, LockQuest.BAD, ROOM_5);
         changesNothing("toggle in room 7", LockQuest::toggle, LockQuest.BAD, THE_GOAL);
     }
 
     private static void refusedHint() {
-        CHECKS.sentence("A call that is refused changes nothing (hint at the goal)");
+        CHECKS.sentence("THE GAME", "A call that is refused changes nothing", "hint");
         changesNothing("hint in room 7", LockQuest::hint, LockQuest.BAD, THE_GOAL);
     }
 
     /** No call can be refused in two ways at once; where one way is nearest to the other, it is still the right one. */
     private static void orderOfRefusals() {
-        CHECKS.sentence("refusals are tested in the order in which they are named.");
+        CHECKS.sentence("THE GAME", "refusals are tested in the order in which they are named.", "one way at a time");
         LockQuest quest = new LockQuest();
         walk(quest, 0, LockQuest.LOCKED);
         walk(quest, 1, LockQuest.BAD);
@@ -398,7 +407,7 @@ public final class GameEdgesTest {
     }
 
     private static void restartFromTheGoal() {
-        CHECKS.sentence("restart(): Begins the game anew. (with keys taken, small doors opened, the position changed)");
+        CHECKS.sentence("Promise 6", "Begins the game anew.", "keys taken, small doors opened, the position changed");
         LockQuest quest = played(THE_GOAL);
         having(quest, 75);
         quest.restart();
@@ -411,15 +420,16 @@ public final class GameEdgesTest {
     }
 
     private static void restartTwice() {
-        CHECKS.sentence("restart(): Begins the game anew. (one that has not gone on)");
+        CHECKS.sentence("Promise 6", "Begins the game anew.", "one that has not gone on");
         LockQuest quest = played(START);
         quest.restart();
+        CHECKS.due("the game after restart", Sight.game(quest), Sight.game(played(START)));
         quest.restart();
         CHECKS.due("all that can be seen after two restarts", Sight.all(quest), Sight.all(played(START)));
     }
 
     private static void walkWithoutSuchADoor() {
-        CHECKS.sentence("BAD when there is no such door");
+        CHECKS.sentence("Promise 7", "BAD when there is no such door", "too small, too large");
         LockQuest quest = played(START);
         for (int i : new int[] {Integer.MIN_VALUE, -3, -2, -1, 2, 3, 11, 12, TAKE, TOGGLE, 256, Integer.MAX_VALUE}) {
             walk(quest, i, LockQuest.BAD);
@@ -432,7 +442,7 @@ public final class GameEdgesTest {
     }
 
     private static void walkLocked() {
-        CHECKS.sentence("walk(int i): [..] LOCKED. LOCKED = -2: The door does not open.");
+        CHECKS.sentence("Promise 7", "LOCKED = -2: The door does not open.", "doors of each kind");
         LockQuest quest = treasure();
         CHECKS.due("a small door", quest.walk(0), -2);
         CHECKS.due("a lock", quest.walk(4), -2);
@@ -444,7 +454,7 @@ public final class GameEdgesTest {
     }
 
     private static void walkToAndFro() {
-        CHECKS.sentence("walk(int i): Walks: the room where one is then. (room 0, the last room)");
+        CHECKS.sentence("Promise 7", "Walks: the room where one is then.", "room 0, and back");
         LockQuest quest = new LockQuest();
         take(quest, 1);
         walk(quest, 0, 1);
@@ -458,7 +468,7 @@ public final class GameEdgesTest {
     }
 
     private static void takeHowMany() {
-        CHECKS.sentence("take(): Takes: how many things. (none, one, all)");
+        CHECKS.sentence("Promise 8", "Takes: how many things.", "none, one, all");
         LockQuest quest = treasure();
         take(quest, 6);
         take(quest, 0);
@@ -473,7 +483,7 @@ public final class GameEdgesTest {
     }
 
     private static void toggleWithoutASwitch() {
-        CHECKS.sentence("BAD when there is no switch here.");
+        CHECKS.sentence("Promise 9", "BAD when there is no switch here.", "but in the room before");
         LockQuest quest = squareWithRedDoor();
         walk(quest, 2, 3);
         toggle(quest, LockQuest.BAD);
@@ -488,7 +498,7 @@ public final class GameEdgesTest {
     }
 
     private static void hereAtFirst() {
-        CHECKS.sentence("here(): The room where one is. (at first, and when a walk was refused)");
+        CHECKS.sentence("Promise 10", "The room where one is.", "at first, and when a walk was refused");
         LockQuest quest = new LockQuest();
         CHECKS.due("here of a new object", quest.here(), 0);
         quest.walk(0);
@@ -501,7 +511,8 @@ public final class GameEdgesTest {
     }
 
     private static void havingNothing() {
-        CHECKS.sentence("having(): What one has: the sum of 2^(l - 1) for keys l, plus [..] (nothing)");
+        CHECKS.sentence("Promise 11", "What one has: the sum of 2^(l - 1) for keys l, plus 8 times how many more small "
+                + "keys were taken than small doors opened, plus 64 times the position.", "nothing");
         having(new LockQuest(), 0);
         LockQuest quest = treasure();
         having(quest, 0);
@@ -510,8 +521,8 @@ public final class GameEdgesTest {
     }
 
     private static void havingAll() {
-        CHECKS.sentence("having(): [..] the sum of 2^(l - 1) for keys l, plus 8 times how many more small keys were taken than "
-                + "small doors opened, plus 64 times the position. (all there are)");
+        CHECKS.sentence("Promise 11", "What one has: the sum of 2^(l - 1) for keys l, plus 8 times how many more small "
+                + "keys were taken than small doors opened, plus 64 times the position.", "all there are");
         LockQuest quest = treasure();
         take(quest, 6);
         toggle(quest, 1);
@@ -526,7 +537,9 @@ public final class GameEdgesTest {
     }
 
     private static void havingSmallKeysCounted() {
-        CHECKS.sentence("plus 8 times how many more small keys were taken than small doors opened (counted, not numbered)");
+        CHECKS.sentence("Promise 11", "What one has: the sum of 2^(l - 1) for keys l, plus 8 times how many more small "
+                + "keys were taken than small doors opened, plus 64 times the position.",
+                "small keys are counted, not numbered");
         LockQuest quest = small();
         CHECKS.due("small key 1 lies in room 0", quest.room(0, 5), 16);
         take(quest, 1);

@@ -1,19 +1,19 @@
 import java.lang.reflect.Field;
 
 /**
- * The edges in promises 12, 13 and 15 where the goal can't be reached. No adventure that make makes is of this kind, so the
+ * The edges in promises 12 to 15 where the goal can't be reached. No adventure that make makes is of this kind, so the
  * test takes things out of one from inside. Each method is the test of one sentence.
  */
 public final class StuckTest {
     private static final Checks CHECKS = new Checks("StuckTest");
 
-    public static void main(String[] args) throws ReflectiveOperationException {
-        stepsToNowhere();
-        hintToNowhere();
-        notSafeFromItself();
-        notSafeFromOneOfThem();
-        situationsWithoutAWay();
-        CHECKS.end();
+    public static void main(String[] args) {
+        CHECKS.run(
+                StuckTest::stepsToNowhere,
+                StuckTest::hintToNowhere,
+                StuckTest::notSafeFromItself,
+                StuckTest::notSafeFromOneOfThem,
+                StuckTest::situationsWithoutAWay);
     }
 
     private static LockQuest withoutTheKey() throws ReflectiveOperationException {
@@ -37,7 +37,7 @@ public final class StuckTest {
     }
 
     private static void stepsToNowhere() throws ReflectiveOperationException {
-        CHECKS.sentence("steps(): [..] NONE. NONE = -3: The goal can't be reached.");
+        CHECKS.sentence("Promise 12", "NONE = -3: The goal can't be reached.", "steps");
         CHECKS.due("steps without the key", withoutTheKey().steps(), -3);
         LockQuest quest = withOneSmallKeyForTwoDoors();
         CHECKS.due("steps while the small key is unspent", quest.steps(), 9);
@@ -48,7 +48,7 @@ public final class StuckTest {
     }
 
     private static void hintToNowhere() throws ReflectiveOperationException {
-        CHECKS.sentence("hint(): [..] NONE. NONE = -3: The goal can't be reached.");
+        CHECKS.sentence("Promise 13", "NONE = -3: The goal can't be reached.", "hint");
         CHECKS.due("hint without the key", withoutTheKey().hint(), -3);
         LockQuest quest = withOneSmallKeyForTwoDoors();
         CHECKS.due("hint while the small key is unspent", quest.hint(), 100);
@@ -59,7 +59,7 @@ public final class StuckTest {
     }
 
     private static void notSafeFromItself() throws ReflectiveOperationException {
-        CHECKS.sentence("Whether from each of these situations the goal can be reached. (from none)");
+        CHECKS.sentence("Promise 15", "Whether from each of these situations the goal can be reached.", "from none");
         CHECKS.due("safe without the key", withoutTheKey().safe(), false);
         LockQuest quest = withOneSmallKeyForTwoDoors();
         spend(quest, 1);
@@ -67,7 +67,7 @@ public final class StuckTest {
     }
 
     private static void notSafeFromOneOfThem() throws ReflectiveOperationException {
-        CHECKS.sentence("Whether from each of these situations the goal can be reached. (from some)");
+        CHECKS.sentence("Promise 15", "Whether from each of these situations the goal can be reached.", "from some");
         LockQuest quest = withOneSmallKeyForTwoDoors();
         CHECKS.due("safe while the small key is unspent", quest.safe(), false);
         spend(quest, 0);
@@ -75,7 +75,8 @@ public final class StuckTest {
     }
 
     private static void situationsWithoutAWay() throws ReflectiveOperationException {
-        CHECKS.sentence("How many situations one can come to from this one, itself counted. (to none but itself)");
+        CHECKS.sentence("Promise 14", "How many situations one can come to from this one, itself counted.",
+                "to none but itself");
         CHECKS.due("situations without the key", withoutTheKey().situations(), 1);
         LockQuest quest = withOneSmallKeyForTwoDoors();
         spend(quest, 1);
