@@ -264,8 +264,9 @@ public final class OutlookEdgesTest {
                 "the most that are known");
         LockQuest quest = new LockQuest();
         quest.make(2708, 12, 3, 3, 2);
-        Model model = new Model(2708, 12, 3, 3, 2);
-        CHECKS.due("situations of the model", model.outlook().situations(), 6636);
+        Model.Outlook outlook = new Model(2708, 12, 3, 3, 2).outlook();
+        CHECKS.due("the outlook of the model", outlook.toString(), "Outlook[steps=19, hint=0, situations=6636, safe=true]");
+        way(quest, "of seed 2708", 19, 0);
         situations(quest, "of seed 2708", 6636);
     }
 
