@@ -265,7 +265,8 @@ public final class OutlookEdgesTest {
         LockQuest quest = new LockQuest();
         quest.make(2708, 12, 3, 3, 2);
         Model.Outlook outlook = new Model(2708, 12, 3, 3, 2).outlook();
-        CHECKS.due("the outlook of the model", outlook.toString(), "Outlook[steps=19, hint=0, situations=6636, safe=true]");
+        CHECKS.due("the outlook of the model", outlook.toString(),
+                "Outlook[steps=19, hint=0, situations=6636, safe=true]");
         way(quest, "of seed 2708", 19, 0);
         situations(quest, "of seed 2708", 6636);
     }
